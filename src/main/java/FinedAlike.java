@@ -26,6 +26,12 @@ public final class FinedAlike {
     private static final int COPIED = 5;
     private static final int LAST_KIND = 5;
 
+    /** By kind: what any two of a group pay for one another, both together. */
+    private static final int[] PAIR_PAYS = {2, 4, 2, 1, 4, 1};
+
+    /** By kind: by how much one who comes behind all others can raise the fine of one of them. */
+    private static final int[] NEXT_ONE_ADDS = {1, 2, 8, 0, 2, 0};
+
     /** Five hours have at most 5! = 120 orders of what is done in them; so have five people. */
     private static final int MOST_ORDERS = 120;
 
@@ -36,7 +42,8 @@ public final class FinedAlike {
 
     private static final int NO_REST = -5;
     private static final int NO_WAY = -5;
-    private static final int BAD_FROM_MINUS_TEN = -10;
+    private static final int BAD_TEN = -10;
+    private static final int FAULT_AT_0 = -10;
     private static final int BAD_NAME = -1000;
     private static final int BAD_STATUS = -1;
 
@@ -103,7 +110,7 @@ public final class FinedAlike {
     public int does(int person, int hour, int thing) {
         boolean known = thing == NONE || town.hasThing(thing);
         if (!known || !town.hasPerson(person) || !town.hasHour(hour)) {
-            return refuseBad(BAD_FROM_MINUS_TEN);
+            return refuseBad(BAD_TEN);
         }
         changes++;
         int was = town.doing[hour][person];
@@ -210,7 +217,7 @@ public final class FinedAlike {
 
     public int rests(int what) {
         if (!within(what, 0, 1)) {
-            return refuseBad(BAD_FROM_MINUS_TEN);
+            return refuseBad(BAD_TEN);
         }
         court.sit(town, town.line, NONE);
         int round = days.roundOfRest(town, court);
@@ -285,7 +292,7 @@ public final class FinedAlike {
 
     public int did(int hour, int person) {
         if (!town.hasHour(hour) || (person != NONE && !town.hasPerson(person))) {
-            return refuseBad(BAD_FROM_MINUS_TEN);
+            return refuseBad(BAD_TEN);
         }
         court.sit(town, town.line, NONE);
         past.findWays(town, court, hour, changes);
@@ -493,7 +500,7 @@ public final class FinedAlike {
         return thing == NOTHING ? NONE : thing;
     }
 
-    /** Of the m^n ways of n people, those in which k at least do the told one: never above 9^18, so a long holds them. */
+    /** Of the m^n ways of n people, those in which k at least do the told one: at most 9^18, so a long holds them. */
     private static long crowdsOfAtLeast(int n, int m, int k) {
         long ways = 0;
         long choices = 1;
@@ -764,6 +771,40 @@ public final class FinedAlike {
             }
         }
 
+        /** By how much all pay more, if one who does nothing yet does a thing in an hour of a day. */
+        int added(Town town, int[][] day, int hour, int person, int thing) {
+            int kind = town.kindOf(hour);
+            int more = PAIR_PAYS[kind] * othersWith(kind, day[hour], person, thing);
+            if (kind == COPIED && wasDone(aheadOf(day, hour), person, thing)) {
+                more += 2;
+            }
+            if (town.kindOf(hour + 1) == COPIED) {
+                more += addedToCopies(day[hour], day[hour + 1], person, thing);
+            }
+            return more;
+        }
+
+        private int othersWith(int kind, int[] now, int person, int thing) {
+            int others = 0;
+            for (int other = 0; other < people && isFined(kind, thing); other++) {
+                if (other != person && same[now[other]] == same[thing] && isFined(kind, now[other])) {
+                    others++;
+                }
+            }
+            return others;
+        }
+
+        /** What others pay more in the next hour, as they copy this: but not those who copy another one already. */
+        private int addedToCopies(int[] now, int[] next, int person, int thing) {
+            int more = 0;
+            for (int other = 0; other < people; other++) {
+                if (other != person && same[next[other]] == same[thing] && !wasDone(now, other, thing)) {
+                    more += 2;
+                }
+            }
+            return more;
+        }
+
         private boolean isFined(int kind, int thing) {
             return thing >= 0 && thing < MOST_THINGS && (thing > 0 || kind != IDLE);
         }
@@ -784,6 +825,9 @@ public final class FinedAlike {
 
     /** Days by needs: what each one's rows are, and which he takes. */
     private static final class Days {
+        /** How many things there are in an hour's prices, with nothing. */
+        private static final int PLACES = NOTHING + 1;
+
         /** Of the last rest, list or search, by hour, then person. */
         final int[][] day = new int[MOST_HOURS][MOST_PEOPLE];
         final int[][] leastDay = new int[MOST_HOURS][MOST_PEOPLE];
@@ -797,9 +841,11 @@ public final class FinedAlike {
         private final int[] rowCount = new int[MOST_PEOPLE];
         private final int[] row = new int[MOST_HOURS];
         private final int[] pick = new int[MOST_PEOPLE];
+        /** What those ahead of a person pay in a search. */
+        private final int[] soFar = new int[MOST_PEOPLE];
         private final int[] order = new int[MOST_PEOPLE];
-        /** What a thing would cost one in an hour: of nothing it stays 0. */
-        private final int[][] prices = new int[MOST_HOURS][NOTHING + 1];
+        /** By person: what a thing in an hour costs, to himself or to all; nothing costs nothing. */
+        private final int[][] prices = new int[MOST_PEOPLE][MOST_HOURS * PLACES];
 
         /** False, if there are too many ways. Kept until the town changes, as it is asked hour by hour. */
         boolean findLeast(Town town, Court court, int changes) {
@@ -879,13 +925,24 @@ public final class FinedAlike {
             return court.finesOf(town, day, town.hours);
         }
 
-        /** An hour's fine of one does not hang on what he himself does in others: so a row costs the sum of its prices. */
+        /** The fine of one in an hour does not hang on what he does in others: so a row costs the sum of its prices. */
         private void setPrices(Town town, Court court, int person) {
             for (int hour = 0; hour < town.hours; hour++) {
                 int kind = town.kindOf(hour);
                 int[] ahead = court.aheadOf(day, hour);
                 for (int t = 0; t < town.things; t++) {
-                    prices[hour][t] = court.fine(kind, day[hour], ahead, person, t);
+                    prices[person][hour * PLACES + t] = court.fine(kind, day[hour], ahead, person, t);
+                }
+            }
+        }
+
+        /** What all pay more, too, is a sum over hours: who copies one does not copy himself. */
+        private void setPricesToAll(Town town, Court court, int person, int hours) {
+            for (int hour = 0; hour < hours; hour++) {
+                for (int t = 0; t < town.things; t++) {
+                    if (town.needs[person][t] > 0) {
+                        prices[person][hour * PLACES + t] = court.added(town, day, hour, person, t);
+                    }
                 }
             }
         }
@@ -906,7 +963,7 @@ public final class FinedAlike {
         private int priceOfRow(int person, int r, int hours) {
             int sum = 0;
             for (int hour = 0; hour < hours; hour++) {
-                sum += prices[hour][rows[person][r * MOST_HOURS + hour]];
+                sum += prices[person][hour * PLACES + rows[person][r * MOST_HOURS + hour]];
             }
             return sum;
         }
@@ -914,7 +971,7 @@ public final class FinedAlike {
         private int priceOfNow(int person, int hours) {
             int sum = 0;
             for (int hour = 0; hour < hours; hour++) {
-                sum += prices[hour][day[hour][person]];
+                sum += prices[person][hour * PLACES + day[hour][person]];
             }
             return sum;
         }
@@ -927,7 +984,7 @@ public final class FinedAlike {
             int least = bound;
             int person = 0;
             clearDay();
-            pick[0] = -1;
+            startPerson(town, court, 0, 0, hours);
             for (int step = 0; step < MOST_STEPS && person >= 0 && least > 0; step++) {
                 pick[person]++;
                 if (pick[person] >= rowCount[person]) {
@@ -935,20 +992,26 @@ public final class FinedAlike {
                     person--;
                     continue;
                 }
-                layRow(person, pick[person], hours);
-                int fines = court.finesOf(town, day, hours);
+                int fines = soFar[person] + priceOfRow(person, pick[person], hours);
                 if (fines >= least) {
                     continue;
                 }
+                layRow(person, pick[person], hours);
                 if (person < town.people - 1) {
                     person++;
-                    pick[person] = -1;
+                    startPerson(town, court, person, fines, hours);
                 } else {
                     least = fines;
                     copyDay(day, bestDay);
                 }
             }
             return least;
+        }
+
+        private void startPerson(Town town, Court court, int person, int fines, int hours) {
+            pick[person] = -1;
+            soFar[person] = fines;
+            setPricesToAll(town, court, person, hours);
         }
 
         private static void copyDay(int[][] source, int[][] copy) {
@@ -1062,12 +1125,12 @@ public final class FinedAlike {
         private boolean mayHavePaid(Town town, Court court, int hour, int last) {
             int kind = town.kindOf(hour);
             int[] ahead = court.aheadOf(town.doing, hour);
-            boolean allThere = last == town.people - 1;
+            int toCome = town.people - 1 - last;
+            boolean mayFall = kind == BOUGHT && toCome > 0;
             for (int person = 0; person <= last; person++) {
                 int fine = court.fine(kind, now, ahead, person, now[person]);
-                boolean tooMuch = fine > town.paid[person] && (allThere || kind != BOUGHT);
-                boolean tooLittle = fine < town.paid[person] && allThere;
-                if (tooMuch || tooLittle) {
+                int most = fine + toCome * NEXT_ONE_ADDS[kind];
+                if (town.paid[person] > most || (town.paid[person] < fine && !mayFall)) {
                     return false;
                 }
             }
@@ -1119,7 +1182,7 @@ public final class FinedAlike {
                 items++;
                 nextToken();
             }
-            return fault == NONE ? items : -10 - fault;
+            return fault == NONE ? items : FAULT_AT_0 - fault;
         }
 
         private void readItem(Town draft) {

@@ -41,7 +41,7 @@ public final class AdviceTest {
         new Run("21 choir").go("choir(0,1)=-2 thing(-1)=0 thing(-1)=1 town(4,3)=1 choir(0,1)=0 choir(0,3)=6 choir(1,4)=12")
             .go("put(0,0,1)=0 put(0,1,1)=0 put(0,2,1)=0 choir(0,3)=12 put(0,1,2)=1 choir(0,3)=6 put(0,1,1)=2")
             .go("put(0,1,3)=1 choir(0,3)=3 choir(0,4)=6 put(0,1,4)=3 choir(0,4)=0 choir(1,4)=24 put(0,1,5)=4 choir(1,4)=6")
-            .go("does(0,0,0)=-1 does(3,0,0)=-1 choir(0,2)=1 all()=4")
+            .go("does(0,0,0)=-1 does(3,0,0)=-1 choir(0,2)=1 all()=4 put(0,1,1)=5 choir(0,2)=4 put(0,0,3)=1 choir(0,2)=1")
             .go("choir(0,0)=-2 choir(0,5)=-2 choir(2,1)=-2 choir(-1,1)=-2 status(0)=5");
     }
 }

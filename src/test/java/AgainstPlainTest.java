@@ -57,6 +57,7 @@ public final class AgainstPlainTest {
     /** Mostly a number from low to high, at times one just outside. */
     private int near(int low, int high) {
         if (random.nextInt(25) > 0 && high >= low) return in(low, high);
+        if (random.nextInt(4) == 0) return random.nextBoolean() ? Integer.MIN_VALUE : Integer.MAX_VALUE;
         return in(low - 2, high + 2);
     }
 

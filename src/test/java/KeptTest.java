@@ -19,7 +19,7 @@ public final class KeptTest {
         new Run("27 image, what it keeps").go("thing(-1)=0 thing(0)=1 town(2,3)=1 put(0,2,4)=0 put(1,0,1)=4 put(2,0,1)=0")
             .go("does(0,0,1)=-1 does(0,0,0)=1 need(1,1,2)=0 told(1,9)=0 crowd(2,2,1)=1 type(0,3)=3 image(0)=1")
             .go("thing(1)=2 does(0,0,-1)=0 does(1,2,1)=-1 undo()=1 need(1,1,0)=2 told(1,0)=9 put(0,2,0)=4 put(1,0,0)=1 put(2,0,0)=1")
-            .go("town(5,5)=1 crowd(1,2,1)=1 type(0,4)=7 thing(9)=-2 from(0)=1")
+            .go("town(5,5)=1 does(4,4,1)=-1 does(4,4,0)=1 does(3,3,1)=-1 crowd(1,2,1)=1 type(0,4)=7 thing(9)=-2 from(0)=1")
             .go("count(0)=2 count(1)=2 count(2)=3 count(3)=2 count(4)=7 part(0)=1 part(1)=2 status(0)=1")
             .go("put(0,2,4)=4 put(1,0,1)=1 put(2,0,1)=1 need(1,1,2)=2 told(1,9)=9 does(1,2,-1)=-1 undo()=1")
             .go("undo()=1 does(0,0,1)=1 undo()=1 undo()=1 does(0,0,-1)=-1 undo()=1 undo()=-3")

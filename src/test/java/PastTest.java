@@ -32,6 +32,10 @@ public final class PastTest {
             .go("did(0,-1)=2 did(0,0)=1 did(0,1)=0 did(0,2)=1");
         new Run("23 did, COPIED").go("thing(-1)=0 thing(-1)=1 put(0,1,5)=0 does(0,0,1)=-1 did(1,-1)=7")
             .go("did(1,0)=0 did(1,1)=9 did(1,2)=9 told(1,2)=0 did(1,-1)=3 did(1,0)=0 did(1,1)=1 did(1,2)=9 told(1,3)=2 did(1,-1)=2 did(1,0)=1 did(1,2)=0");
+        new Run("23 did, whatever has changed").go("thing(-1)=0 town(2,3)=1 put(0,1,5)=0 told(1,2)=0 did(1,-1)=0")
+            .go("does(0,0,0)=-1 did(1,-1)=1 did(1,0)=9 undo()=1 did(1,-1)=0 put(0,1,2)=5 did(1,-1)=0 put(2,0,1)=0 did(1,-1)=1")
+            .go("did(1,0)=0 did(2,-1)=0 did(1,0)=0 image(0)=1 put(1,0,0)=4 thing(0)=1 did(1,-1)=4 put(1,0,4)=0 did(1,-1)=2")
+            .go("from(0)=1 did(1,-1)=1 town(2,3)=1 did(1,-1)=3 told(0,1)=0 did(1,-1)=0 read()=0 did(1,-1)=1");
     }
 
     private static void copied() {

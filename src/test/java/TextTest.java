@@ -5,6 +5,7 @@ public final class TextTest {
         clearing();
         aWholeTown();
         whatATownTakesThePlaceOf();
+        textsToTheLastByte();
         faultsOfTokens();
         faultsOfNumbers();
         faultsOfOrder();
@@ -60,12 +61,28 @@ public final class TextTest {
             .go("read()=1 count(0)=1 count(1)=3 count(2)=4 count(3)=0 count(4)=6 undo()=-3")
             .go("put(0,2,0)=0 put(1,0,4)=4 put(2,0,0)=0 does(0,0,-1)=-1 need(0,0,0)=0 told(0,0)=0")
             .go("part(0)=3 part(1)=4 status(0)=1 status(1)=2 from(0)=1 count(0)=2 count(1)=5 told(0,0)=7 count(4)=6");
+        new Run("10 read, twice").text("thing;people 2;does 1 1 0;hour 1 2;line 2;need 0 0 1;rich 1;")
+            .go("read()=7 read()=7 count(0)=1 least(0,0)=0").text("thing;").go("read()=1 count(0)=1 count(1)=3 least(0,0)=9 all()=0")
+            .text("thing;x").go("read()=-16 count(0)=1").text("thing;thing 0;does 0 0 1;").go("read()=3 count(0)=2 does(0,0,1)=1");
         new Run("10 read, an empty one").go("thing(-1)=0 town(1,1)=1 read()=0 count(0)=0 count(1)=3 count(2)=4");
+    }
+
+    private static void textsToTheLastByte() {
+        reads(" ".repeat(250), 0);
+        reads(" ".repeat(244) + "thing;", 1);
+        faulty(" ".repeat(245) + "thing", 250);
+        faulty(" ".repeat(242) + "people 3", 250);
+        faulty(" ".repeat(249) + "x", 249);
+        new Run("10 read, what was typed ahead of clear").text("thingxx").text("thing").go("read()=-15")
+            .text("people 345").text("people 3").go("read()=-18").text("thing;;;").text("thing;").go("read()=1");
     }
 
     private static void faultsOfTokens() {
         faulty("things;", 0);
         faulty("thin;", 0);
+        faulty("xhing;", 0);
+        faulty("thinga;", 0);
+        faulty("thingz;", 0);
         faulty("thing;x;", 6);
         faulty("peoples 3;", 0);
         faulty("THING;", 0);
@@ -83,6 +100,12 @@ public final class TextTest {
         faulty("people 3 3;", 9);
         faulty("people 12;", 7);
         faulty("people 03;", 7);
+        faulty("people 30;", 7);
+        faulty("people 39;", 7);
+        faulty("people 3/;", 8);
+        faulty("people 3:;", 8);
+        faulty("people`;", 6);
+        faulty("people{;", 6);
         faulty("people 3", 8);
         faulty("people x;", 7);
         faulty("people thing;", 7);

@@ -39,7 +39,7 @@ public final class TownTest {
             .go("put(1,0,2)=4 put(0,1,3)=0 put(2,0,2)=0 does(0,0,0)=-1 need(0,0,1)=0 told(0,5)=0")
             .go("town(2,3)=1 count(0)=4 count(1)=2 count(2)=3 count(3)=0 undo()=-3")
             .go("put(1,0,2)=2 put(0,1,0)=0 put(2,0,0)=0 does(0,0,-1)=-1 need(0,0,0)=0 told(0,0)=0")
-            .go("town(0,3)=-2 town(6,3)=-2 town(3,0)=-2 town(3,6)=-2 town(-1,-1)=-2 count(1)=2 count(2)=3 count(3)=1")
+            .go("town(0,3)=-2 town(6,3)=-2 town(3,0)=-2 town(3,6)=-2 town(-1,-1)=-2 count(1)=2 count(2)=3 count(3)=1 status(0)=5")
             .go("town(1,1)=1 does(0,0,0)=-1 does(1,0,0)=-10 does(0,1,0)=-10")
             .go("town(5,5)=1 does(4,4,3)=-1 does(5,4,3)=-10 does(4,5,3)=-10");
     }
@@ -68,6 +68,11 @@ public final class TownTest {
             .go("count(3)=2 does(1,0,1)=-1 does(1,1,1)=-1 does(1,2,1)=-1 does(1,3,1)=-1 does(2,0,1)=-1 does(2,1,1)=-1")
             .go("does(2,2,1)=-1 does(2,3,1)=-1 count(3)=10 does(0,2,2)=-1 count(3)=10").times(10, "undo()=1")
             .go("undo()=-3 count(3)=0 does(0,0,3)=0 does(0,1,3)=-1 does(0,2,3)=-1 does(2,3,3)=-1");
+        new Run("6 undo, what was done ahead of each").go(FOUR_THINGS)
+            .go("does(0,0,0)=-1 does(0,0,1)=0 does(0,0,2)=1 does(0,0,3)=2 does(1,1,0)=-1 does(1,1,1)=0 does(1,1,2)=1")
+            .go("does(0,0,0)=3 does(0,0,1)=0 does(0,0,2)=1 does(2,2,0)=-1 does(2,2,1)=0 count(3)=10")
+            .go("undo()=1 does(2,2,0)=0 undo()=1 undo()=1 does(2,2,-1)=-1 undo()=1 undo()=1 undo()=1 undo()=1 does(0,0,3)=3 undo()=1")
+            .go("undo()=1 does(1,1,1)=1 undo()=1 undo()=1 undo()=1 does(1,1,-1)=-1 undo()=1 undo()=1 undo()=1 undo()=-3 does(0,0,1)=1");
     }
 
     private static void needs() {
@@ -107,6 +112,8 @@ public final class TownTest {
             .go("does(0,0,0)=-1 does(0,1,0)=-1 pays(0,0)=0 pays(0,1)=0 does(1,1,1)=-1 pays(1,1)=3 pays(0,1)=0")
             .go("does(2,0,3)=-1 pays(0,1)=2 pays(1,1)=3 does(2,1,2)=-1 pays(2,1)=0 does(0,2,2)=-1 pays(0,2)=2")
             .go("put(1,0,4)=0 pays(0,1)=0 pays(1,1)=0 pays(0,2)=2 does(1,2,0)=-1 pays(1,2)=2");
+        new Run("12 pays, COPIED in the last of five hours").go(FOUR_THINGS).go("town(5,5)=1 put(0,4,5)=0")
+            .go("does(4,3,3)=-1 does(3,4,3)=-1 does(4,4,3)=-1 pays(3,4)=2 pays(4,4)=1 all()=3");
         new Run("12 pays, COPIED behind IDLE").go(FOUR_THINGS).go("town(2,2)=1 put(0,0,4)=0 put(0,1,5)=0")
             .go("does(0,0,0)=-1 does(1,1,0)=-1 pays(0,0)=0 pays(1,1)=2 all()=2");
     }
