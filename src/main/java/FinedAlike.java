@@ -524,7 +524,7 @@ public final class FinedAlike {
         return big;
     }
 
-    /** Puts the first of length elements into the next order by size: false, if they were in the last one. */
+    /** Puts the first elements, length of them, into the next order by size: false, if they were in the last one. */
     private static boolean nextOrder(int[] elements, int length) {
         int turn = length - 2;
         while (turn >= 0 && elements[turn] >= elements[turn + 1]) {
