@@ -7,7 +7,6 @@ public final class DaysTest {
         fewestHours();
         lists();
         rests();
-        restsLate();
         Run.end();
     }
 
@@ -77,26 +76,5 @@ public final class DaysTest {
         new Run("17 rests, never").go("thing(-1)=0 town(3,2)=1 put(0,0,2)=0 put(0,1,2)=0 need(0,0,1)=0 need(1,0,1)=0 need(2,0,2)=0")
             .go("rests(0)=0 rests(1)=0 does(2,0,0)=-1 does(2,1,0)=-1 does(0,0,0)=-1 does(1,0,0)=-1")
             .go("rests(0)=-1 rests(1)=-5 status(0)=0 status(1)=0 all()=6 put(0,0,0)=2 rests(0)=1");
-    }
-
-    /** Towns that rest in the last round that is looked at, and in the one behind it. */
-    private static void restsLate() {
-        Run last = new Run("17 rests, in round 20").go("thing(-1)=0 thing(-1)=1 town(5,5)=1 put(2,0,1)=0")
-            .go("put(0,0,2)=0 put(0,1,5)=0 put(0,2,5)=0 put(0,3,5)=0 put(0,4,5)=0")
-            .go("need(0,0,1)=0 need(1,1,1)=0 need(1,0,1)=0 need(2,0,3)=0 need(3,1,2)=0 need(4,1,3)=0 need(4,0,2)=0");
-        allDo(last, "10100", "00101", "01111", "11110", "10110");
-        last.go("rests(0)=20 rests(1)=19");
-        Run later = new Run("17 rests, in round 21").go("thing(-1)=0 thing(0)=1 town(5,5)=1")
-            .go("put(0,1,5)=0 put(0,2,5)=0 put(0,3,5)=0 put(0,4,5)=0")
-            .go("need(0,1,2)=0 need(0,0,1)=0 need(1,1,2)=0 need(1,0,1)=0 need(2,0,1)=0 need(2,1,3)=0 need(3,0,3)=0 need(4,1,1)=0");
-        allDo(later, "00000", "00110", "10000", "00101", "01100");
-        later.go("rests(0)=-1 rests(1)=-5 status(0)=0 status(1)=0");
-    }
-
-    /** What each one does, hour by hour. */
-    private static void allDo(Run run, String... people) {
-        for (int p = 0; p < people.length; p++) {
-            for (int h = 0; h < people[p].length(); h++) run.go("does(" + p + "," + h + "," + people[p].charAt(h) + ")=-1");
-        }
     }
 }
