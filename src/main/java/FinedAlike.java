@@ -636,7 +636,7 @@ public final class FinedAlike {
 
         /** Hours beyond the last one are looked at too, when it is asked how few would do. */
         int kindOf(int hour) {
-            return hasHour(hour) ? kinds[hour] : 0;
+            return hour >= 0 && hour < hours ? kinds[hour] : 0;
         }
 
         int needed(int person) {
@@ -876,19 +876,24 @@ public final class FinedAlike {
         }
 
         int finesByNumber(Town town, Court court) {
-            writeRows(town, town.hours);
-            for (int i = 0; i < MOST_PEOPLE; i++) {
-                order[i] = i;
-            }
+            startOrders(town);
             return finesInOrder(town, court);
         }
 
         int finesByWorstOrder(Town town, Court court) {
-            int most = finesByNumber(town, court);
+            startOrders(town);
+            int most = finesInOrder(town, court);
             for (int i = 0; i < MOST_ORDERS && nextOrder(order, town.people); i++) {
                 most = Math.max(most, finesInOrder(town, court));
             }
             return most;
+        }
+
+        private void startOrders(Town town) {
+            writeRows(town, town.hours);
+            for (int i = 0; i < MOST_PEOPLE; i++) {
+                order[i] = i;
+            }
         }
 
         /** The rest itself is left in day. */
@@ -932,17 +937,6 @@ public final class FinedAlike {
                 int[] ahead = court.aheadOf(day, hour);
                 for (int t = 0; t < town.things; t++) {
                     prices[person][hour * PLACES + t] = court.fine(kind, day[hour], ahead, person, t);
-                }
-            }
-        }
-
-        /** What all pay more, too, is a sum over hours: who copies one does not copy himself. */
-        private void setPricesToAll(Town town, Court court, int person, int hours) {
-            for (int hour = 0; hour < hours; hour++) {
-                for (int t = 0; t < town.things; t++) {
-                    if (town.needs[person][t] > 0) {
-                        prices[person][hour * PLACES + t] = court.added(town, day, hour, person, t);
-                    }
                 }
             }
         }
@@ -1008,10 +1002,17 @@ public final class FinedAlike {
             return least;
         }
 
+        /** His prices are what all pay more: a sum over hours, too, as who copies one does not copy himself. */
         private void startPerson(Town town, Court court, int person, int fines, int hours) {
             pick[person] = -1;
             soFar[person] = fines;
-            setPricesToAll(town, court, person, hours);
+            for (int hour = 0; hour < hours; hour++) {
+                for (int t = 0; t < town.things; t++) {
+                    if (town.needs[person][t] > 0) {
+                        prices[person][hour * PLACES + t] = court.added(town, day, hour, person, t);
+                    }
+                }
+            }
         }
 
         private static void copyDay(int[][] source, int[][] copy) {

@@ -1,10 +1,14 @@
 import java.io.IOException;
+import java.lang.reflect.Modifier;
 import java.nio.file.Files;
 import java.nio.file.Path;
 import java.util.ArrayList;
 import java.util.List;
+import java.util.Map;
+import java.util.TreeMap;
 import java.util.regex.Matcher;
 import java.util.regex.Pattern;
+import java.util.stream.Stream;
 
 /** The rules of LANGUAGE.md that a plain look at the source can hold. */
 public final class SourceTest {
@@ -14,6 +18,12 @@ public final class SourceTest {
         "\\b(protected)\\b", "\\b(equals|hashCode|toString)\\s*\\(", "\\bstatic\\s*\\{", "\\b(Object|Random|Thread|System\\.(out|err|nanoTime|currentTimeMillis))\\b",
         "\\b(Integer|Long)\\.[A-Z]", "\\b(var|record|yield)\\b", "@",
     };
+
+    private static final int MOST_LINES = 60;
+    private static final int MOST_PARAMETERS = 7;
+    private static final int MOST_DEEP = 8;
+    private static final int MOST_CLASSES = 12;
+    private static final int MOST_FIELDS = 20;
 
     private static int wrong = 0;
 
@@ -26,7 +36,8 @@ public final class SourceTest {
         }
         imports(code);
         newOnlyInFieldsAndConstructors(code);
-        methods(code);
+        classes();
+        calls(methods(code));
         if (wrong != 0) System.exit(1);
     }
 
@@ -64,17 +75,50 @@ public final class SourceTest {
         }
     }
 
-    private static void methods(String code) {
+    /** The body of each method by its name: those of one name in two classes are taken together. */
+    private static Map<String, String> methods(String code) {
         Pattern head = Pattern.compile("(?m)^( {4}| {8})(?:[\\w\\[\\]]+ )*(\\w+)\\(([^)]*)\\) \\{$");
         Matcher m = head.matcher(code);
-        List<String> names = new ArrayList<>();
+        Map<String, String> bodies = new TreeMap<>();
         while (m.find()) {
-            names.add(m.group(2));
             int end = code.indexOf("\n" + m.group(1) + "}", m.end());
             int lines = lineOf(code, end + 1) - lineOf(code, m.start()) + 1;
-            if (lines > 60) say(m.group(2) + " has " + lines + " lines");
-            if (!m.group(3).isBlank() && m.group(3).split(",").length > 7) say(m.group(2) + " has too many parameters");
+            if (lines > MOST_LINES) say(m.group(2) + " has " + lines + " lines");
+            if (!m.group(3).isBlank() && m.group(3).split(",").length > MOST_PARAMETERS) say(m.group(2) + " has too many parameters");
+            bodies.merge(m.group(2), code.substring(m.end(), end), String::concat);
         }
-        if (names.size() < 31) say("only " + names.size() + " methods were seen: this test must be mended");
+        if (bodies.size() < 31) say("only " + bodies.size() + " methods were seen: this test must be mended");
+        return bodies;
+    }
+
+    private static void calls(Map<String, String> bodies) {
+        for (String name : bodies.keySet()) goDeeper(bodies, name, new ArrayList<>());
+    }
+
+    private static void goDeeper(Map<String, String> bodies, String name, List<String> open) {
+        if (open.contains(name)) {
+            say("recursion: " + open + " calls " + name);
+            return;
+        }
+        open.add(name);
+        Matcher m = Pattern.compile("\\b(\\w+)\\(").matcher(bodies.get(name));
+        List<String> seen = new ArrayList<>();
+        while (m.find()) {
+            if (!bodies.containsKey(m.group(1)) || seen.contains(m.group(1))) continue;
+            seen.add(m.group(1));
+            goDeeper(bodies, m.group(1), open);
+        }
+        if (open.size() > MOST_DEEP) say("calls go too deep: " + open);
+        open.remove(open.size() - 1);
+    }
+
+    private static void classes() {
+        List<Class<?>> all = new ArrayList<>(List.of(FinedAlike.class.getDeclaredClasses()));
+        all.add(FinedAlike.class);
+        if (all.size() > MOST_CLASSES) say("there are " + all.size() + " classes");
+        for (Class<?> one : all) {
+            long fields = Stream.of(one.getDeclaredFields()).filter(f -> !Modifier.isStatic(f.getModifiers())).count();
+            if (fields > MOST_FIELDS) say(one.getSimpleName() + " has " + fields + " fields");
+        }
     }
 }
